@@ -5,7 +5,6 @@ public final class Cocite {
     public static final int NONE = -1;
 
     private static final int MOST_PAPERS = 12;
-    private static final int ALL_PAPERS = (1 << MOST_PAPERS) - 1;
     private static final int LAST_YEAR = 99;
 
     private final Shelf shelf;
@@ -263,7 +262,7 @@ public final class Cocite {
 
         int at(int paper, int other) {
             int place = paper * MOST_PAPERS + other;
-            boolean inside = holds(ALL_PAPERS, paper) && holds(ALL_PAPERS, other);
+            boolean inside = paper >= 0 && paper < MOST_PAPERS && other >= 0 && other < MOST_PAPERS;
             return inside && place >= 0 && place < cells.length ? cells[place] : 0;
         }
 
@@ -280,7 +279,7 @@ public final class Cocite {
 
         private void setOneWay(int paper, int other, int value) {
             int place = paper * MOST_PAPERS + other;
-            boolean inside = holds(ALL_PAPERS, paper) && holds(ALL_PAPERS, other);
+            boolean inside = paper >= 0 && paper < MOST_PAPERS && other >= 0 && other < MOST_PAPERS;
             if (inside && place >= 0 && place < cells.length) {
                 cells[place] = value;
             }

@@ -115,6 +115,15 @@ public final class FieldsTest {
         Cocite none = new Cocite();
         CHECK.due("new: split(0)", Check.NO_SUCH_ELEMENT, () -> none.split(0));
 
+        Cocite small = Papers.citing(0, 1, 0, 1);
+        CHECK.due("a pair of gain 1: split(1)", 0, () -> small.split(1));
+        Cocite even = Papers.citing(0, 1, 3, 6);
+        fieldsDue("one field", even, 0, 0, 0, 0);
+        CHECK.due("a least gain of 0 does not pay: split(0)", 0, () -> even.split(0));
+        Cocite first = Papers.citing(0, 1, 2, 6, 5, 4);
+        fieldsDue("fields that cross", first, 0, 1, 0, 1, 1, 1);
+        CHECK.due("the lowest one of a higher field apart: split(1)", 2, () -> first.split(1));
+
         Cocite higher = Papers.citing(0, 0, 3, 2, 9, 17);
         CHECK.due("a field of 2, 3, 4, 5: fieldOf(3)", 2, () -> higher.fieldOf(3));
         CHECK.due("a field of 2, 3, 4, 5: split(2)", 52, () -> higher.split(2));

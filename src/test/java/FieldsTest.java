@@ -85,23 +85,7 @@ public final class FieldsTest {
         // Fields {0, 3, 4} and {1, 2} with weight between them.
         Cocite z = Papers.citing(0, 0, 0, 6, 11);
         fieldsDue("z", z, 0, 0, 0, 3, 3);
-        CHECK.due("z: gain(0, 3)", gainOf(z, 7, 24), () -> z.gain(0, 3));
-    }
-
-    /** The gain of two sets of papers, by the counts alone. */
-    private static int gainOf(Cocite x, int one, int two) {
-        int between = 0;
-        int strength = 0;
-        int otherStrength = 0;
-        for (int a = 0; a < x.papers(); a++) {
-            for (int b = 0; b < x.papers(); b++) {
-                int weight = a == b ? 0 : x.shared(a, b) + x.joint(a, b);
-                between += (one >> a & 1) == 1 && (two >> b & 1) == 1 ? weight : 0;
-                strength += (one >> a & 1) == 1 ? weight : 0;
-                otherStrength += (two >> a & 1) == 1 ? weight : 0;
-            }
-        }
-        return 2 * x.totalAnew() * between - strength * otherStrength;
+        CHECK.due("z: gain(0, 3)", Papers.gainOf(7, 24, 0, 0, 0, 6, 11), () -> z.gain(0, 3));
     }
 
     private static void splits() {

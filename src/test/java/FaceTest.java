@@ -3,6 +3,7 @@ import java.lang.reflect.Field;
 import java.lang.reflect.Method;
 import java.lang.reflect.Modifier;
 import java.util.Arrays;
+import java.util.List;
 import java.util.TreeSet;
 import java.util.stream.Collectors;
 
@@ -57,11 +58,26 @@ public final class FaceTest {
             boolean shown = !Modifier.isPrivate(field.getModifiers());
             CHECK.due("field " + field.getName() + " is shown", field.getName().equals("NONE") ? 1 : 0, () -> shown ? 1 : 0);
         }
+        constantsAreShown();
+        for (Class<?> inside : Cocite.class.getDeclaredClasses()) {
+            boolean hidden = (inside.getModifiers() & (Modifier.PUBLIC | Modifier.PROTECTED)) == 0;
+            CHECK.due("class " + inside.getSimpleName() + " is hidden", 1, () -> hidden ? 1 : 0);
+        }
         Constructor<?>[] constructors = Cocite.class.getDeclaredConstructors();
         CHECK.due("constructors", 1, () -> constructors.length);
         CHECK.due("the constructor is public", 1, () -> Modifier.isPublic(constructors[0].getModifiers()) ? 1 : 0);
         CHECK.due("the class is public and final", Modifier.PUBLIC | Modifier.FINAL, Cocite.class::getModifiers);
         CHECK.end("FaceTest");
+    }
+
+    /** "public static final int NONE = -1;" */
+    private static void constantsAreShown() {
+        List<String> constants = Arrays.stream(Cocite.class.getFields()).map(Field::toString).toList();
+        CHECK.due("constants: " + constants, 1,
+                () -> constants.equals(List.of("public static final int Cocite.NONE")) ? 1 : 0);
+        CHECK.due("NONE", -1, () -> Cocite.NONE);
+        CHECK.due("the constructor has parameters", 0, () -> Cocite.class.getConstructors()[0].getParameterCount());
+        CHECK.due("the constructor throws", 0, () -> Cocite.class.getConstructors()[0].getExceptionTypes().length);
     }
 
     private static String told(Method method) {
